@@ -2690,7 +2690,6 @@ public final class Orbithouse {
                         || units.whyCrippled() > 0) {
                     return FAILED;
                 }
-                mode = to;
                 telemetry.comeEvent(3, to);
             }
             mode = to;

@@ -19,6 +19,8 @@ public final class GroundTest {
         numbersGoRound();
         turnsGoRound();
         bentUpIsNothing();
+        unlockingBeginsAnew();
+        controlEndsWaiting();
         Check.finish("GroundTest");
     }
 
@@ -152,7 +154,9 @@ public final class GroundTest {
         Check.same("control again", o.state(), 'c');
         ground(o, "rt", 0, 1);
         deaf(o, false);
-        o.step(2);
+        o.step(1);
+        ground(o, "ru", 0, 3);
+        o.step(1);
         receiver(o, "nt", 7, 1);
         o.step(1);
         Check.same("active", o.state(), 'a');
@@ -435,14 +439,70 @@ public final class GroundTest {
         Check.same("NEXT as parameter", o.parameter(10), 2);
     }
 
-    /** 512 calls allow some 250 turns in one object: 2 calls each. */
     private static void turnsGoRound() {
         Orbithouse o = Check.near();
-        for (int i = 1; i <= 250; i++) {
-            Check.same("turn", o.begin(i % 64), i);
+        for (int i = 1; i <= 258; i++) {
+            Check.same("turn", o.begin(i % 64), i % 256);
             o.step(3);
         }
-        receiver(o, "tn", 250, 250 % 64);
+        receiver(o, "tn", 2, 258 % 64);
+    }
+
+    private static void unlockingBeginsAnew() {
+        Orbithouse o = Check.near();
+        o.window(20, 5, 9);
+        for (int i = 0; i < 17; i++) {
+            Check.tellInOrder(o, 0);
+        }
+        o.step(1);
+        deaf(o, true);
+        o.step(37);
+        ground(o, "r", 1);
+        deaf(o, false);
+        o.step(1);
+        receiver(o, "l", 1);
+        o.step(1);
+        Check.same("locked", o.state(), 'l');
+        ground(o, "rt", 1, 0);
+        o.unlock();
+        ground(o, "rt", 0, 1);
+    }
+
+    /** An action that fails brings itself again and again: the queue stays full. */
+    private static void controlEndsWaiting() {
+        Orbithouse o = Check.near();
+        Check.doneAs(o, 0, 4, 0, 24, 0, 1);
+        Check.doneAs(o, 0, 12, 0, 0);
+        Check.doneAs(o, 0, 13, 1);
+        for (int i = 0; i < 8; i++) {
+            Check.tellFast(o, 99);
+        }
+        for (int i = 0; i < 8; i++) {
+            o.link(true, 9 - i, 0, 0, 0, 0);
+            o.step(1);
+        }
+        o.step(2);
+        Check.same("full", o.parameter(6), 8);
+        o.link(true, 9, 0, 0, 0, 0);
+        o.link(false, 9, 0, 0, 0, 0);
+        o.window(20, 60, 3);
+        for (int i = 0; i < 18; i++) {
+            Check.tellInOrder(o, 0);
+        }
+        o.step(10);
+        receiver(o, "nlwa", 0, 0, 1, 1);
+        o.step(15);
+        receiver(o, "nlwa", 0, 0, 1, 1);
+        o.step(1);
+        receiver(o, "nlwa", 0, 1, 1, 1);
+        o.step(9);
+        Check.same("locked", o.state(), 'l');
+        o.unlock();
+        o.step(9);
+        receiver(o, "ntlwa", 0, 0, 1, 1, 1);
+        o.step(1);
+        receiver(o, "ntlwa", 0, 1, 0, 0, 0);
+        Check.same("full", o.parameter(6), 8);
     }
 
     private static void bentUpIsNothing() {

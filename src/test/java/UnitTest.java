@@ -24,6 +24,9 @@ public final class UnitTest {
         becomingSafe();
         transmittersInSafe();
         leavingSafe();
+        oneOfTwoIsEnough();
+        deadGyroIsNotStill();
+        farAngles();
         Check.finish("UnitTest");
     }
 
@@ -658,5 +661,70 @@ public final class UnitTest {
         Check.same("image", s.parameter(22), 3);
         Check.same("T", s.parameter(0), 20);
         Check.doneAs(s, 0, 3, 1);
+    }
+
+    private static void oneOfTwoIsEnough() {
+        Orbithouse o = Check.near();
+        for (int unit = 4; unit < 8; unit += 2) {
+            Check.doneAs(o, 0, 1, unit, 0);
+            Check.doneAs(o, 0, 1, unit + 1, 1);
+        }
+        Check.doneAs(o, 0, 1, 3, 1);
+        Check.doneAs(o, 0, 1, 2, 0);
+        Check.doneAs(o, 0, 3, 0);
+        for (int unit = 2; unit < 8; unit++) {
+            Check.same("unit " + unit, o.unit(unit, 'o'), unit % 2);
+        }
+        // The other heater is on already: none is put on.
+        Orbithouse p = Check.near();
+        Check.doneAs(p, 0, 30, 0, 7, 255);
+        Check.doneAs(p, 0, 1, 9, 1);
+        Check.doneAs(p, 0, 30, 0, 6, 200);
+        p.step(3);
+        Check.same("heater 8", p.unit(8, 'o'), 0);
+        Check.same("heater 9", p.unit(9, 'o'), 1);
+    }
+
+    private static void deadGyroIsNotStill() {
+        Orbithouse o = Check.near();
+        Check.doneAs(o, 0, 3, 2);
+        o.step(1);
+        o.breakUnit(4, 's');
+        o.step(3);
+        Check.same("still", o.unit(4, 's'), 3);
+        o.breakUnit(4, 'd');
+        o.step(1);
+        Check.same("it did not answer", o.unit(4, 's'), 0);
+        Check.same("misses", o.unit(4, 'm'), 1);
+    }
+
+    private static void farAngles() {
+        for (int wait : new int[] {130, 165}) {
+            Orbithouse o = Check.near();
+            for (int wheel = 10; wheel < 13; wheel++) {
+                Check.doneAs(o, 0, 1, wheel, 0);
+            }
+            o.step(wait);
+            for (int wheel = 10; wheel < 13; wheel++) {
+                Check.tellFast(o, 1, wheel, 1);
+            }
+            o.step(4);
+            int angle = o.world('a');
+            int rate = o.world('r');
+            boolean isFar = false;
+            for (int t = 0; t < 60; t++) {
+                angle = round(angle + rate);
+                rate = o.parameter(0) % 32 == 31 ? Math.min(9, rate + 1) : rate;
+                int q = round(-angle);
+                isFar |= Math.abs(q) >= 100;
+                int h = Math.max(-4, Math.min(4, q / 20));
+                h = h == 0 ? Integer.signum(q) : h;
+                rate += Integer.signum(h - rate);
+                o.step(1);
+                Check.same("angle", o.world('a'), angle);
+                Check.same("rate", o.world('r'), rate);
+            }
+            Check.same("far", isFar, true);
+        }
     }
 }
