@@ -87,6 +87,124 @@ final class Check {
         return o.tell(false, kind, n[0], n[1], n[2], n[3], n[4], n[5]);
     }
 
+    /**
+     * Sends fast commands, each a KIND and its numbers, and what is in order and waits behind them, so that all of
+     * them arrive together in the next tick; answers the ORDERS of the fast ones.
+     */
+    static int[] together(Orbithouse o, int[]... commands) {
+        int[] orders = new int[commands.length];
+        for (int i = 0; i < commands.length; i++) {
+            orders[i] = tellFast(o, commands[i][0], java.util.Arrays.copyOfRange(commands[i], 1, commands[i].length));
+        }
+        int frames = commands.length + o.ground('w');
+        same("no more than nine arrive together", frames <= 9, true);
+        for (int i = 0; i < frames; i++) {
+            o.link(true, frames - i, 0, 0, 0, 0);
+            o.step(1);
+        }
+        o.link(true, 1, 0, 0, 0, 0);
+        return orders;
+    }
+
+    /** So many ticks: none, or more than one call lets go by. */
+    static void go(Orbithouse o, int ticks) {
+        for (int left = ticks; left > 0; left -= 300) {
+            o.step(Math.min(left, 300));
+        }
+    }
+
+    /** So many times the same command. */
+    static int[][] times(int count, int... command) {
+        int[][] all = new int[count][];
+        java.util.Arrays.fill(all, command);
+        return all;
+    }
+
+    interface Maker {
+        Orbithouse make();
+    }
+
+    /**
+     * A command that is not done leaves all on board as one that there is not: the same reports are made, with
+     * another code and KIND in them alone.
+     */
+    static void noEffect(String what, int end, Maker maker, int kind, int... numbers) {
+        Orbithouse o = maker.make();
+        Orbithouse twin = maker.make();
+        doneAs(o, end, kind, numbers);
+        doneAs(twin, 1, 44);
+        same(what + ", KIND " + kind + java.util.Arrays.toString(numbers) + " changes nothing",
+                effects(o).equals(effects(twin)), true);
+    }
+
+    /** What a command can change on board, without what its reports tell. */
+    static List<Long> effects(Orbithouse o) {
+        List<Long> all = new ArrayList<>();
+        lookAtBoard(o, all);
+        lookAtRows(o, all);
+        lookAtMemory(o, all);
+        for (char c : "bwarspnd".toCharArray()) {
+            all.add((long) o.world(c));
+        }
+        for (int i = 0; i < 24; i++) {
+            all.add((long) o.parameter(i));
+        }
+        return all;
+    }
+
+    interface Ask {
+        long of(char what);
+    }
+
+    /** Of all signs those alone are of a meaning that are told; the others are refused, and nothing changes. */
+    static void only(String name, String meant, Orbithouse o, Ask ask) {
+        List<Long> before = look(o);
+        for (int c = 0; c <= 0xFFFF; c++) {
+            Class<?> thrown = null;
+            try {
+                ask.of((char) c);
+            } catch (RuntimeException e) {
+                thrown = e.getClass();
+            }
+            Class<?> due = meant.indexOf(c) >= 0 ? null : IllegalArgumentException.class;
+            if (thrown != due) {
+                wrong++;
+                System.out.println(name + " of the sign " + c + ": threw " + thrown + ", due is " + due);
+            }
+        }
+        same(name + " changes nothing", before.equals(look(o)), true);
+    }
+
+    /** z as it is behind a DRAW. */
+    static int nextZ(int z) {
+        return (int) ((25173L * z + 13849) % 65536);
+    }
+
+    /** A z from which the DRAWS of these numbers are as due; where due is -1, any is. */
+    static int seedFor(int[] numbers, int[] due) {
+        for (int first = 0; first < 65536; first++) {
+            int z = first;
+            boolean isFit = true;
+            for (int i = 0; i < numbers.length && isFit; i++) {
+                z = nextZ(z);
+                isFit = due[i] < 0 || z / 16 % numbers[i] == due[i];
+            }
+            if (isFit) {
+                return first;
+            }
+        }
+        same("there is such a z", false, true);
+        return 0;
+    }
+
+    /** z behind so many DRAWS. */
+    static int zBehind(int z, int draws) {
+        for (int i = 0; i < draws; i++) {
+            z = nextZ(z);
+        }
+        return z;
+    }
+
     /** The index of the latest report that the ground keeps of a class with a; -1 without one. */
     static int latest(Orbithouse o, int sort, int a) {
         for (int i = o.ground('k') - 1; i >= 0; i--) {

@@ -4,7 +4,7 @@ public final class CommandTest {
     private static final int HIGH = Integer.MAX_VALUE;
 
     /** KIND, which number (0 for x), its least and its most, and the six numbers that are in range beside it. */
-    private static final int[][] RANGES = {
+    static final int[][] RANGES = {
         {1, 0, 2, 14, 2, 0, 0, 0, 0, 0}, {1, 1, 0, 1, 3, 0, 0, 0, 0, 0},
         {2, 0, 2, 14, 2, 0, 0, 0, 0, 0}, {2, 1, 0, 1, 3, 0, 0, 0, 0, 0},
         {3, 0, 0, 2, 1, 0, 0, 0, 0, 0},

@@ -480,7 +480,7 @@ public final class FaceTest {
         Check.near("share", p.onShare(), 9f / 15f);
     }
 
-    private static long checksum(Orbithouse o) {
+    static long checksum(Orbithouse o) {
         long h = 7;
         for (int i = 0; i < 24; i++) {
             h = 31 * h + o.parameter(i);
