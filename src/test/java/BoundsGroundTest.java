@@ -11,6 +11,8 @@ public final class BoundsGroundTest {
         roomInTheQueue();
         oneFrameComesAgain();
         receiverWithoutBoard();
+        stuckBoardTakesFrames();
+        fastAheadOfMarked();
         controlComesTwice();
         oldControlComesLate();
         turnsOfUnlocking();
@@ -257,6 +259,55 @@ public final class BoundsGroundTest {
         p.step(1);
         receiver(p, "nlwa", 0, 1, 1, 1);
         Check.same("gone", p.endOf(fast), -1);
+    }
+
+    /** "And the board runs or is stuck": one that is stuck takes frames of both sorts, and tells so. */
+    private static void stuckBoardTakesFrames() {
+        Orbithouse o = Check.near();
+        Check.doneAs(o, 0, 33, 3);
+        o.flip(2, 0, 1);
+        o.flip(2, 0, 2);
+        Check.doneAs(o, 0, 37);
+        // Resetting, it takes none; the frame in order is not lost by that.
+        int order = Check.tellInOrder(o, 0);
+        int fast = Check.tellFast(o, 0);
+        o.step(3);
+        Check.same("resetting", o.board(), 's');
+        receiver(o, "nwa", 0, 1, 1);
+        Check.same("gone", o.endOf(fast), -1);
+        int came = o.ground('d');
+        o.step(1);
+        Check.same("stuck", o.board(), 'k');
+        receiver(o, "nwa", 0, 0, 1);
+        o.step(1);
+        ground(o, "dsm", came + 1, 1, 0);
+        o.step(1);
+        receiver(o, "nwa", 1, 0, 0);
+        Check.same("done", o.endOf(order), 0);
+        o.step(1);
+        ground(o, "s", 0);
+        int[] orders = Check.together(o, Check.times(9, 0));
+        o.step(1);
+        Check.same("seven wait", o.parameter(6), 7);
+        Check.same("the eighth waits", o.endOf(orders[7]), -2);
+        Check.same("the ninth is gone", o.endOf(orders[8]), -1);
+    }
+
+    /** "Else the first one that is fast; else the first one of SENT that is marked". */
+    private static void fastAheadOfMarked() {
+        Orbithouse o = Check.near();
+        deaf(o, true);
+        o.window(5, 5, 9);
+        tellInOrder(o, 2);
+        o.step(7);
+        // The timer marked both at T 7, and the first one was sent.
+        ground(o, "smrcu", 2, 1, 1, 5, 3);
+        Check.tellFast(o, 0);
+        o.step(1);
+        // A fast one leaves the timer as it goes, and the marks.
+        ground(o, "smcuf", 2, 1, 4, 4, 0);
+        o.step(1);
+        ground(o, "smcu", 2, 0, 5, 5);
     }
 
     /** "(turn - TURN) modulo 256 is not 1 to 100, nothing": 0, as the same frame comes twice. */
